@@ -68,6 +68,16 @@ final class Check {
         return x;
     }
 
+    /** A BACK and a GUARD that chase each other for ever. */
+    static TrackCircuits flapping() {
+        return yard(row(4, 40, 0, 1), row(5, 40, 0, 1));
+    }
+
+    /** The same pair, kept calm by a BACK till its SLOW neighbour goes UP in the third moment. */
+    static TrackCircuits lateFlapping() {
+        return yard(row(4, 40, 0, 1), row(5, 40, 0, 1), row(4, 40, 0, 1), row(1, 40, 0, 1));
+    }
+
     static int[] row(int... numbers) {
         return numbers;
     }
