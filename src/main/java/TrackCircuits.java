@@ -20,7 +20,8 @@ public final class TrackCircuits {
     private static final int MOST_PICK = 99;
     private static final int MOST_CURRENT = 999;
 
-    private static final int PLAIN = 0, SLOW = 1, STICK = 2, CODED = 3, BACKED = 4, GUARD = 5;
+    /** KINDS beside 0, PLAIN, as which a relay goes if nothing else is said. */
+    private static final int SLOW = 1, STICK = 2, CODED = 3, BACKED = 4, GUARD = 5;
     private static final int KINDS = 6;
     /** The KIND right above each KIND (none above PLAIN). */
     private static final int[] ABOVE = {-1, 0, 0, 1, 0, 2};
@@ -1254,6 +1255,7 @@ public final class TrackCircuits {
             }
         }
 
+        /** Of a CLAUSE whose WORD takes fewer it means nothing. */
         int number(int clause, int i) {
             return numbers[clause * MOST_NUMBERS + i];
         }
@@ -1289,9 +1291,6 @@ public final class TrackCircuits {
                 return begin;
             }
             words[clause] = word;
-            for (int i = 0; i < MOST_NUMBERS; i++) {
-                numbers[clause * MOST_NUMBERS + i] = 0;
-            }
             for (int i = 0; i < NUMBERS[word]; i++) {
                 skipBlanks();
                 begin = at;

@@ -65,6 +65,10 @@ public final class FaultsTest {
         CHECK.due("P12 none right of it", x.faultOf(1, 2), 0);
         x.section(0, 50, 0, 1);
         CHECK.due("P12 still 0", x.faultOf(1, 2), 0);
+        TrackCircuits dropped = Check.plain(2);
+        dropped.drop();
+        dropped.fault(2, 0);
+        CHECK.due("P12 none any more right of it", dropped.faultOf(0, 2), 0);
         x.fault(0, 1);
         x.fault(1, 1);
         x.fault(3, 1);

@@ -128,6 +128,22 @@ public final class MomentsTest {
         y.train(2, 1);
         CHECK.due("queue 2", y.moment(), 3);
         logIs("P15 queue 2", y, 31, 41, 30);
+        queueIs("left ahead of right", "455", "45 25 45", 3, 0, 10, 1, 11, 0, 21);
+        queueIs("a STICK comes again", "4520", "45 45 25 5", 3, 0, 10, 1, 11, 0, 21);
+        queueIs("none comes that doesn't look", "45253", "25 45 25 15 5", 27, 0, 10, 40, 1, 30, 11, 0, 21);
+        queueIs("nor one that looks to the other side", "45242", "25 25 45 45 45", 11, 0, 10, 41, 1, 30, 11, 0, 21);
+    }
+
+    /** What a moment changes in a yard of KINDS and FEEDS, with relays that are UP at first. */
+    private static void queueIs(String what, String kinds, String feeds, int up, int... changes) {
+        TrackCircuits x = new TrackCircuits();
+        String[] each = feeds.split(" ");
+        for (int s = 0; s < each.length; s++) {
+            x.section(kinds.charAt(s) - '0', Integer.parseInt(each[s]), 0, 1);
+            x.force(s, up >> s & 1);
+        }
+        CHECK.due("P14 " + what, x.moment(), changes.length);
+        logIs("P15 " + what, x, changes);
     }
 
     /** The longest that settles of many tried: 36 CHANGES. */

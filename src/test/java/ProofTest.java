@@ -19,9 +19,6 @@ public final class ProofTest {
         }
         x.rule(2, 0);
         CHECK.due("P21 also if there are 6, behind them", x.seen(0), 1);
-        TrackCircuits y = Check.flapping();
-        y.section(0, 50, 0, 1);
-        y.rule(0, 20);
         CHECK.due("P21 flaps: no", calmedByThird().seen(2), 0);
         CHECK.due("P21 a break calms it: seen", Check.flapping().seen(0), 1);
         CHECK.due("P21 UP by HOLD", heldByLeak().seen(0), 0);
@@ -43,6 +40,14 @@ public final class ProofTest {
         return x;
     }
 
+    /** Two GUARDS, the second UP, and a TRAIN: both are UP behind a MOMENT, but DOWN if asked from the last. */
+    private static TrackCircuits fallsFromLast() {
+        TrackCircuits x = Check.yard(Check.row(5, 40, 0, 1), Check.row(5, 40, 0, 1), Check.row(0, 40, 0, 1));
+        x.force(1, 1);
+        x.train(2, 1);
+        return x;
+    }
+
     private static void bound() {
         TrackCircuits x = Check.yard(Check.row(0, 50, 9, 9), Check.row(0, 90, 0, 1));
         // LEAK by WEATHER 3 is 24, by 4 it is 32: CURRENTS 26, 18
@@ -60,6 +65,11 @@ public final class ProofTest {
         x.rule(0, 0);
         CHECK.due("P22 by any", x.bound(0), 9);
         CHECK.due("P22 by none", x.bound(1), 0);
+        // half of 72 is 36, of 64 it is 32
+        x.rule(0, 36);
+        CHECK.due("P22 just by the greatest", x.bound(1), 9);
+        x.rule(0, 50);
+        CHECK.due("P22 just by the least", x.bound(0), 0);
         x.rule(0, 91);
         CHECK.due("P22 wrong by all", x.bound(0), NONE);
         x.train(0, 1);
@@ -70,6 +80,7 @@ public final class ProofTest {
         CHECK.due("P22 bad", x.bound(-1), BAD);
         CHECK.due("P22 no sections", new TrackCircuits().bound(0), 9);
         CHECK.due("P22 no sections", new TrackCircuits().bound(1), NONE);
+        CHECK.due("P22 in the order as told", fallsFromLast().bound(0), 9);
         CHECK.due("P22 flaps by all", Check.flapping().bound(0), NONE);
         CHECK.due("P22 flaps by all", Check.flapping().bound(1), NONE);
     }
@@ -139,6 +150,15 @@ public final class ProofTest {
         CHECK.due("P24 none is wrong", x.pick(1), 99);
         TrackCircuits weak = Check.yard(Check.row(0, 40, 0, 1), Check.row(2, 30, 0, 1));
         CHECK.due("P24 by all sections", weak.pick(1), 30);
+        CHECK.due("P24 in the order as told", fallsFromLast().pick(1), 40);
+        TrackCircuits dry = Check.yard(Check.row(0, 5, 9, 9));
+        CHECK.due("P24 a current of 0", dry.pick(1), 0);
+        TrackCircuits much = Check.yard(Check.row(0, 99, 0, 1), Check.row(0, 99, 0, 1));
+        for (int i = 0; i < 6; i++) {
+            much.fault(2, 0);
+        }
+        // with a RUST a quarter of 393 is 98
+        CHECK.due("P24 just the greatest", much.pick(0), 99);
         TrackCircuits slow = Check.yard(Check.row(1, 40, 0, 1));
         CHECK.due("P24 wrong by all", slow.pick(1), NONE);
         CHECK.due("P24 flaps till 41", Check.flapping().pick(0), 41);
