@@ -72,14 +72,18 @@ final class Edges {
 
     /** A call on a new start is refused, and all that other calls show is as it was. */
     void refused(String what, Start start, Call call, int want) {
-        List<String> ahead = Shown.state(start.make());
-        List<String> sheets = Shown.sheets(start.make());
+        due(what, call.on(start.make()), want);
+        keeps(what, start, call);
+    }
+
+    /** Behind a call on a new start all that other calls show is as it was. */
+    void keeps(String what, Start start, Call call) {
         TrackCircuits x = start.make();
-        due(what, call.on(x), want);
-        same(what, Shown.state(x), ahead);
+        call.on(x);
+        same(what, Shown.state(x), Shown.state(start.make()));
         TrackCircuits y = start.make();
-        due(what, call.on(y), want);
-        same(what, Shown.sheets(y), sheets);
+        call.on(y);
+        same(what, Shown.sheets(y), Shown.sheets(start.make()));
     }
 
     /** The first that is shown otherwise is told. */

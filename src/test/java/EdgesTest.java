@@ -1,7 +1,8 @@
 /** Boundary cases of every promise: one test for each sentence that names one, in the EdgesOf.. classes. */
 public final class EdgesTest {
     private static final Class<?>[] TESTS = {EdgesOfSections.class, EdgesOfFaults.class, EdgesOfMoments.class,
-        EdgesOfProof.class, EdgesOfLots.class, EdgesOfTexts.class, EdgesOfHost.class};
+        EdgesOfProof.class, EdgesOfLots.class, EdgesOfTexts.class, EdgesOfHost.class,
+        EdgesOfAsking.class};
 
     public static void main(String[] args) throws ReflectiveOperationException {
         Check check = new Check();
